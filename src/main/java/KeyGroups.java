@@ -181,7 +181,7 @@ public final class KeyGroups {
     public int hot(int k) {
         int total = owners.totalWeight();
         for (int group = 0; group < owners.groups; group++) {
-            if (owners.isHot(group, total) && owners.heavierThan(group) == k) {
+            if (owners.isHot(group, total) && owners.aheadOf(group) == k) {
                 return group;
             }
         }
@@ -251,13 +251,14 @@ public final class KeyGroups {
         if (marksMade >= MOST_MARKS) {
             return ROOM;
         }
+        int number = marksMade;
         // A mark's room is made once, when first needed, and used again after clear().
-        if (marks[marksMade] == null) {
-            marks[marksMade] = new Held();
+        if (marks[number] == null) {
+            marks[number] = new Held();
         }
-        marks[marksMade].copyFrom(now);
+        marks[number].copyFrom(now);
         marksMade++;
-        return marksMade - 1;
+        return number;
     }
 
     public int restore(int mark, int n) {
@@ -476,7 +477,7 @@ public final class KeyGroups {
         }
 
         /** How many groups stand ahead of this one by weight, then by number. */
-        int heavierThan(int group) {
+        int aheadOf(int group) {
             int ahead = 0;
             for (int other = 0; other < groups; other++) {
                 boolean heavier = weight[other] > weight[group];
