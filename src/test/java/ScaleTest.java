@@ -10,6 +10,7 @@ public final class ScaleTest {
         leastWithoutWeights();
         leastUnderLimit();
         limitIsRoundedUp();
+        greatestPlan();
         noRanges();
         weightsCountAsMoved();
         groupsAt();
@@ -157,6 +158,28 @@ public final class ScaleTest {
         A.due("least(2) below 4", y.least(2), 4 + 6);
         y.slack(100);
         A.due("least(2) with the greatest slack", y.least(2), 1);
+        KeyGroups z = new KeyGroups();
+        z.slack(43);
+        Answers.weigh(z, 6, 1, 0, 0, 0, 0, 0, 0);
+        // 7 * 143 / 200 is 5.005, so 6.
+        A.due("least(2) just above 5", z.least(2), 1 + 7);
+        KeyGroups most = new KeyGroups();
+        most.slack(0);
+        Answers.weigh(most, 200, 200, 0, 0, 0, 0, 0, 0);
+        A.due("least(2) of all rows", most.least(2), 200 + 7);
+    }
+
+    private static void greatestPlan() {
+        KeyGroups x = new KeyGroups();
+        x.shape(32, 12);
+        A.due("least(12)", x.least(12), 11);
+        A.due("scale(12, 1)", x.scale(12, 1), 11);
+        A.due("TASK 0 keeps the most", x.taskAt(0, 1), 21);
+        A.due("the last has one", x.taskAt(11, 0), 31);
+        A.due("least(12) again", x.least(12), 0);
+        x.shape(12, 12);
+        A.due("scale(12, 1) of 12", x.scale(12, 1), 11);
+        A.due("the last of 12", x.taskAt(11, 0), 11);
     }
 
     private static void noRanges() {

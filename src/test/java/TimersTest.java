@@ -54,21 +54,22 @@ public final class TimersTest {
         x.timer(9, 5);
         x.timer(1, 10);
         x.timer(2, 5);
+        x.timer(4, 5);
         x.timer(50, 11);
         x.timer(3, 7);
-        A.due("tick(10)", x.tick(10), 5);
-        int[][] due = {{2, 5}, {9, 5}, {3, 7}, {1, 10}, {3, 10}};
+        A.due("tick(10)", x.tick(10), 6);
+        int[][] due = {{2, 5}, {4, 5}, {9, 5}, {3, 7}, {1, 10}, {3, 10}};
         for (int i = 0; i < due.length; i++) {
-            A.due("KEY of log(" + (4 - i) + ")", x.log(4 - i, 0), due[i][0]);
-            A.due("time of log(" + (4 - i) + ")", x.log(4 - i, 1), due[i][1]);
+            A.due("KEY of log(" + (5 - i) + ")", x.log(5 - i, 0), due[i][0]);
+            A.due("time of log(" + (5 - i) + ")", x.log(5 - i, 1), due[i][1]);
         }
         A.due("told(7)", x.told(7), 1);
-        A.due("told(9)", x.told(9), 5);
-        A.due("log(5, 0)", x.log(5, 0), KeyGroups.NONE);
+        A.due("told(9)", x.told(9), 6);
+        A.due("log(6, 0)", x.log(6, 0), KeyGroups.NONE);
         A.due("log(-1, 0)", x.log(-1, 0), KeyGroups.NONE);
         A.due("log(0, 4)", x.log(0, 4), KeyGroups.OUTSIDE);
         A.due("log(0, -1)", x.log(0, -1), KeyGroups.OUTSIDE);
-        A.due("OUTSIDE is ahead of NONE", x.log(5, 4), KeyGroups.OUTSIDE);
+        A.due("OUTSIDE is ahead of NONE", x.log(6, 4), KeyGroups.OUTSIDE);
         A.due("tick(11)", x.tick(11), 1);
         A.due("the latest", x.log(0, 0), 50);
     }
