@@ -19,6 +19,13 @@ final class Answers {
         }
     }
 
+    void due(String calls, long[] got, long[] want) {
+        due(calls + ": how many", got.length, want.length);
+        for (int i = 0; i < Math.min(got.length, want.length); i++) {
+            due(calls + ": the one at " + i, got[i], want[i]);
+        }
+    }
+
     void end() {
         System.out.println(test + ": " + calls + " answers, " + wrong + " not as due");
         if (wrong != 0 || calls == 0) {
@@ -26,21 +33,42 @@ final class Answers {
         }
     }
 
-    /** Gives each of the 8 groups of x so many rows of value 1 as stand in its place. */
+    /** The document's own words for the group of a key, in 64 bits that are cut to 32 by hand. */
+    static int groupOf(int key, int groups) {
+        long x = (key * 0x9E3779B1L + 7L * key) & 0xFFFFFFFFL;
+        long y = x ^ (x / 32768);
+        return (int) (y / 2 % groups);
+    }
+
+    static int keyOf(int group, int groups) {
+        for (int key = 0; key < 100; key++) {
+            if (groupOf(key, groups) == group) {
+                return key;
+            }
+        }
+        throw new IllegalArgumentException("no key is of group " + group + " of " + groups);
+    }
+
+    /** Gives each group of x, which has so many of them, the rows of value 1 that stand in its place. */
     static void weigh(KeyGroups x, int... rows) {
         for (int group = 0; group < rows.length; group++) {
             for (int i = 0; i < rows[group]; i++) {
-                x.row(KEY_OF[group], 1);
+                x.row(keyOf(group, rows.length), 1);
             }
         }
     }
 
-    /** The owners of all groups as one decimal number, group 0 first, behind a leading 1. */
-    static long owners(KeyGroups x) {
-        long all = 1;
-        for (int group = 0; group < x.told(0); group++) {
-            all = all * 10 + x.groupAt(group, 0);
+    /** The owners of all groups as one text, group 0 first, each a digit or a letter behind 9. */
+    void dueOwners(String when, KeyGroups x, String want) {
+        StringBuilder got = new StringBuilder();
+        int groups = x.told(0);
+        for (int group = 0; group < groups; group++) {
+            got.append(Integer.toString(x.groupAt(group, 0), 36));
         }
-        return all;
+        calls++;
+        if (!got.toString().equals(want)) {
+            wrong++;
+            System.out.println(test + ": " + when + ": the owners are " + got + ", due is " + want);
+        }
     }
 }

@@ -88,7 +88,7 @@ public final class MarksTest {
         A.due("THE LOG before", x.told(9), 1);
         A.due("TOTAL before", x.told(6), 3);
         x.restore(0, 2);
-        A.due("owners", Answers.owners(x), 100001111L);
+        A.dueOwners("owners", x, "00001111");
         for (int group = 0; group < 8; group++) {
             A.due("epoch of " + group, x.groupAt(group, 1), group < 4 ? 2 : 3);
             A.due("weight of " + group, x.groupAt(group, 2), 0);
@@ -103,7 +103,7 @@ public final class MarksTest {
         A.due("moved stays", x.moved(0), 4);
         A.due("slack stays", x.slack(40), 40);
         x.restore(0, 4);
-        A.due("owners of 4", Answers.owners(x), 100112233L);
+        A.dueOwners("owners of 4", x, "00112233");
         A.due("N", x.told(2), 4);
         A.due("epoch once more", x.groupAt(0, 1), 3);
     }

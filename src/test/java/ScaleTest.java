@@ -38,12 +38,12 @@ public final class ScaleTest {
     private static void evenRanges() {
         KeyGroups x = new KeyGroups();
         A.due("scale(3, 0)", x.scale(3, 0), 6);
-        A.due("owners of 3", Answers.owners(x), 100111222L);
+        A.dueOwners("owners of 3", x, "00111222");
         A.due("N", x.told(2), 3);
         x.scale(4, 0);
-        A.due("owners of 4", Answers.owners(x), 100112233L);
+        A.dueOwners("owners of 4", x, "00112233");
         x.scale(1, 0);
-        A.due("owners of 1", Answers.owners(x), 100000000L);
+        A.dueOwners("owners of 1", x, "00000000");
         x.shape(32, 12);
         x.scale(12, 0);
         int[] firsts = {0, 2, 5, 8, 10, 13, 16, 18, 21, 24, 26, 29};
@@ -99,13 +99,13 @@ public final class ScaleTest {
         A.due("least(1)", x.least(1), 0);
         A.due("least(2)", x.least(2), 1);
         A.due("least(4)", x.least(4), 3);
-        A.due("least changes nothing", Answers.owners(x), 100000000L);
+        A.dueOwners("least changes nothing", x, "00000000");
         A.due("scale(4, 1)", x.scale(4, 1), 3);
-        A.due("owners", Answers.owners(x), 100000123L);
+        A.dueOwners("owners", x, "00000123");
         A.due("least(3)", x.least(3), 1);
         A.due("scale(3, 1)", x.scale(3, 1), 1);
         // Only the group of TASK 3 must go.
-        A.due("owners", Answers.owners(x), 100000122L);
+        A.dueOwners("owners", x, "00000122");
         A.due("least(1)", x.least(1), 3);
     }
 
@@ -115,13 +115,13 @@ public final class ScaleTest {
         Answers.weigh(x, 2, 2, 2, 2, 2, 2, 2, 2);
         A.due("least(2)", x.least(2), 12);
         A.due("scale(2, 1)", x.scale(2, 1), 4);
-        A.due("owners", Answers.owners(x), 100001111L);
+        A.dueOwners("owners", x, "00001111");
         KeyGroups y = new KeyGroups();
         y.slack(50);
         Answers.weigh(y, 2, 2, 2, 2, 2, 2, 2, 2);
         A.due("least(2) with slack", y.least(2), 6);
         A.due("scale(2, 1) with slack", y.scale(2, 1), 2);
-        A.due("owners with slack", Answers.owners(y), 100000011L);
+        A.dueOwners("owners with slack", y, "00000011");
         tiesTakeTheFewestGroups();
     }
 
@@ -133,14 +133,14 @@ public final class ScaleTest {
         // LIMIT is 10: TASK 0 needs groups 2 and 3, and may have 4, which moves in any case.
         A.due("least(2)", x.least(2), 22);
         A.due("scale(2, 1)", x.scale(2, 1), 6);
-        A.due("TASK 0 has the fewest", Answers.owners(x), 100001111L);
+        A.dueOwners("TASK 0 has the fewest", x, "00001111");
         KeyGroups y = new KeyGroups();
         y.slack(0);
         Answers.weigh(y, 1, 1, 1, 1, 1, 1, 1, 1);
         // LIMIT is 3: TASK 0 keeps 3 groups, the other five go as 2 and 3, or as 3 and 2.
         A.due("least(3)", y.least(3), 10);
         A.due("scale(3, 1)", y.scale(3, 1), 5);
-        A.due("TASK 1 has the fewest", Answers.owners(y), 100011222L);
+        A.dueOwners("TASK 1 has the fewest", y, "00011222");
     }
 
     private static void limitIsRoundedUp() {
@@ -150,7 +150,7 @@ public final class ScaleTest {
         // 3 * 100 / 200 is 2 when rounded up: 2 and 1, which 1 and 1 could not be.
         A.due("least(2)", x.least(2), 2 + 5);
         A.due("scale(2, 1)", x.scale(2, 1), 6);
-        A.due("owners", Answers.owners(x), 100111111L);
+        A.dueOwners("owners", x, "00111111");
         KeyGroups y = new KeyGroups();
         y.slack(33);
         Answers.weigh(y, 3, 3, 0, 0, 0, 0, 0, 0);
