@@ -1,4 +1,5 @@
 import java.util.ArrayList;
+import java.util.Arrays;
 import java.util.Comparator;
 import java.util.HashMap;
 import java.util.List;
@@ -6,7 +7,8 @@ import java.util.Map;
 
 /**
  * The document in its plainest words, with lists that are sorted and filtered at each call and plans
- * that are found by trying all ranges: slow, and written apart from KeyGroups to be compared with it.
+ * that are found by trying all ranges, where these are not too many: slow, and written apart from
+ * KeyGroups to be compared with it.
  */
 final class Model {
     record Row(int number, int key, int value) { }
@@ -15,6 +17,9 @@ final class Model {
     record Done(int number, int key, long sum) { }
     record Came(int key, int time, int count, long sum) { }
     record Mark(Map<Integer, State> states, List<Row> waiting, List<Timer> timers, int time, int came) { }
+
+    private static final int WAYS_TO_TRY = 1000;
+    private static final long NO_WAY = 1L << 40;
 
     private int g;
     private int most;
@@ -168,11 +173,13 @@ final class Model {
         return all;
     }
 
+    private long limit(int tasks) {
+        long hundreds = told(6) * (100L + slack);
+        return hundreds / (100L * tasks) + (hundreds % (100L * tasks) == 0 ? 0 : 1);
+    }
+
     private boolean isUnderLimit(int[] plan, int tasks) {
-        long limit = 0;
-        while (limit * 100 * tasks < told(6) * (100L + slack)) {
-            limit++;
-        }
+        long limit = limit(tasks);
         for (int task = 0; task < tasks; task++) {
             long together = 0;
             for (int i = 0; i < g; i++) {
@@ -203,6 +210,22 @@ final class Model {
     }
 
     private int[] leastPlan(int tasks) {
+        int[] byRests = leastByRests(tasks);
+        if (waysOf(tasks) <= WAYS_TO_TRY && !Arrays.equals(byRests, leastByTrying(tasks))) {
+            throw new IllegalStateException("the model's own two plans differ");
+        }
+        return byRests;
+    }
+
+    private long waysOf(int tasks) {
+        long ways = 1;
+        for (int i = 1; i < tasks; i++) {
+            ways = ways * (g - i) / i;
+        }
+        return ways;
+    }
+
+    private int[] leastByTrying(int tasks) {
         List<int[]> found = new ArrayList<>();
         allRanges(tasks, 0, 0, new int[g], found);
         int[] best = null;
@@ -212,6 +235,46 @@ final class Model {
             }
         }
         return best;
+    }
+
+    /** For ranges too many to try: what the tasks from one on move at least when they have all from a group on. */
+    private int[] leastByRests(int tasks) {
+        long[][] rest = new long[tasks + 1][g + 1];
+        for (long[] row : rest) {
+            Arrays.fill(row, NO_WAY);
+        }
+        rest[tasks][g] = 0;
+        for (int task = tasks - 1; task >= 0; task--) {
+            for (int first = 0; first < g; first++) {
+                for (int end = first + 1; end <= g; end++) {
+                    rest[task][first] = Math.min(rest[task][first], costOfRange(task, first, end, tasks) + rest[task + 1][end]);
+                }
+            }
+        }
+        if (rest[0][0] >= NO_WAY) {
+            return null;
+        }
+        int[] plan = new int[g];
+        int first = 0;
+        for (int task = 0; task < tasks; task++) {
+            int end = first + 1;
+            while (costOfRange(task, first, end, tasks) + rest[task + 1][end] != rest[task][first]) {
+                end++;
+            }
+            Arrays.fill(plan, first, end, task);
+            first = end;
+        }
+        return plan;
+    }
+
+    private long costOfRange(int task, int first, int end, int tasks) {
+        long together = 0;
+        long cost = 0;
+        for (int i = first; i < end; i++) {
+            together += weight[i];
+            cost += owner[i] == task ? 0 : weight[i] + 1;
+        }
+        return together > limit(tasks) ? NO_WAY : cost;
     }
 
     int scale(int tasks, int rule) {
