@@ -26,6 +26,8 @@ public final class PlanEdgesTest {
         movedOfTheLatest();
         halvesAreCut();
         leastIsWhatScaleMoves();
+        weightsOfTasks();
+        weightsOfTheGreatestTask();
         hotIsAboveTwice();
         hotInOrder();
         hotBehindScales();
@@ -342,6 +344,39 @@ public final class PlanEdgesTest {
         A.due("scale(2, 1)", x.scale(2, 1), 1);
         A.due("least(1) of the half", x.least(1), 3 + 1);
         A.due("least(2) of what is", x.least(2), 0);
+    }
+
+    /** Promise 12: "their WEIGHTS together", of those that a task has now. */
+    private static void weightsOfTasks() {
+        KeyGroups x = new KeyGroups();
+        x.scale(3, 0);
+        A.due("no weight", x.taskAt(0, 2), 0);
+        Answers.weigh(x, 1, 2, 0, 0, 0, 3, 0, 2);
+        int[] due = {3, 0, 5};
+        for (int task = 0; task < 3; task++) {
+            A.due("weights of " + task, x.taskAt(task, 2), due[task]);
+        }
+        x.step(2);
+        A.due("a step leaves them", x.taskAt(2, 2), 5);
+        x.scale(2, 0);
+        A.due("halves of TASK 0", x.taskAt(0, 2), 1);
+        A.due("halves of TASK 1", x.taskAt(1, 2), 1 + 1);
+    }
+
+    private static void weightsOfTheGreatestTask() {
+        KeyGroups x = new KeyGroups();
+        x.shape(32, 12);
+        for (int i = 0; i < 400; i++) {
+            x.row(i % 100, 1);
+        }
+        A.due("weights of one task", x.taskAt(0, 2), 400);
+        x.scale(12, 0);
+        int together = 0;
+        for (int task = 0; task < 12; task++) {
+            together += x.taskAt(task, 2);
+        }
+        A.due("weights of twelve", together, x.told(6));
+        A.due("weights of a task that is not", x.taskAt(12, 2), KeyGroups.UNKNOWN);
     }
 
     /** Promise 15: "whose WEIGHT times G is more than twice TOTAL". */
